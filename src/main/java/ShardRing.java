@@ -253,7 +253,7 @@ public final class ShardRing {
      * in tells its owner by the old members when the ring has the new ones already.
      */
     private void makePlan() {
-        plan.start();
+        plan.open = true;
         for (int node = 0; node < NODES; node++) {
             Store store = stores[node];
             for (int i = 0; i < store.size; i++) {
@@ -439,11 +439,6 @@ public final class ShardRing {
         private int flipped;
         private int gone;
         private boolean copied;
-
-        private void start() {
-            end();
-            open = true;
-        }
 
         private void end() {
             open = false;

@@ -154,6 +154,7 @@ public final class PromiseTests {
         due("2 A is COPIED", x::step, ShardRing.COPIED);
         due("2 to a COPIED key", () -> x.put(A, 11), 0);
         due("2 two writes", () -> x.written(false), 10);
+        due("2 neither is a record", () -> x.written(true), 1);
         due("2 A is FLIPPED", x::step, ShardRing.FLIPPED);
         due("2 the target has what was put", () -> x.get(A), 11);
         due("2 to a FLIPPED key", () -> x.put(A, 12), 0);
@@ -215,6 +216,7 @@ public final class PromiseTests {
         due("3 off the source", () -> x.holds(1, A), false);
         due("3 off the target", () -> x.holds(2, A), false);
         due("3 two writes", () -> x.written(false), 9);
+        due("3 neither is a record", () -> x.written(true), 1);
         due("3 a COPIED key that is not there", () -> x.remove(A), 0);
         due("3 no write", () -> x.written(false), 9);
         due("3 still in the plan", () -> x.state(A), ShardRing.COPIED);
