@@ -54,26 +54,9 @@ public final class PlanBoundaryTests {
         }
         Checks.due("all keys move", () -> all.join(1, 1), 4);
         ShardRing most = new ShardRing(1, 1);
-        int between = putBetween(most, 256);
-        Checks.due("256 keys", () -> between, 256);
+        Rings.putBetween(most, 256);
         Checks.due("256 keys move", () -> most.join(1, 1), 256);
         Checks.due("256 keys are NEW", () -> most.count(1), 256);
-    }
-
-    /** Puts so many keys whose places lie between the point of node 0 and that of node 1. */
-    private static int putBetween(ShardRing x, int keys) {
-        int done = 0;
-        for (int key = 0; done < keys; key++) {
-            int place = formula(key);
-            if (place > 52752509 && place <= 1862763098) {
-                done += x.put(key, key);
-            }
-        }
-        return done;
-    }
-
-    private static int formula(long x) {
-        return (int) (((x ^ x >>> 29) * -7046029254386353131L) >>> 33);
     }
 
     private static void joinWithPoints() {
@@ -135,7 +118,7 @@ public final class PlanBoundaryTests {
         ShardRing some = Rings.loaded();
         Checks.due("it has one of five", () -> some.leave(0), 1);
         ShardRing all = new ShardRing(2, 1);
-        putBetween(all, 256);
+        Rings.putBetween(all, 256);
         Checks.due("it has all 256", () -> all.leave(1), 256);
         Checks.due("256 keys are NEW", () -> all.count(1), 256);
     }
@@ -294,6 +277,11 @@ public final class PlanBoundaryTests {
         Checks.due("neither has it", x::step, ShardRing.COPIED);
         Checks.due("the target", () -> x.holds(2, A), false);
         Checks.due("one write", () -> x.written(false), 8);
+        ShardRing beside = Rings.moving(0);
+        beside.put(Rings.LATE, 7);
+        beside.remove(A);
+        beside.step();
+        Checks.due("another key of the target", () -> beside.get(Rings.LATE), 7);
         ShardRing again = Rings.restarted(Rings.moving(1));
         again.remove(A);
         Checks.due("the target has an old copy", () -> again.holds(2, A), true);
@@ -326,6 +314,8 @@ public final class PlanBoundaryTests {
         int before = x.written(false);
         Checks.due("GONE once more", x::step, ShardRing.GONE);
         Checks.due("a write", () -> x.written(false), before + 1);
+        Checks.due("the other keys of the source", () -> x.size(1), 3);
+        Checks.due("the first of them", () -> x.get(B), 2);
         ShardRing y = Rings.told(Rings.restarted(Rings.moving(3)), 0);
         Checks.due("before which the power fails", y::step, -9);
     }
@@ -364,6 +354,14 @@ public final class PlanBoundaryTests {
         Checks.due("all at node 0", () -> x.size(0), keys.length);
         stepThrough(x, keys, x.leave(0));
         Checks.due("all at node 1", () -> x.size(1), keys.length);
+        // The keys of several sources in one row.
+        ShardRing many = new ShardRing(7, 1);
+        int[] ascending = new int[30];
+        for (int i = 0; i < ascending.length; i++) {
+            ascending[i] = Rings.manyKey(9 * i);
+            many.put(ascending[i], i);
+        }
+        stepThrough(many, ascending, many.join(7, 16));
     }
 
     private static void stepThrough(ShardRing x, int[] ascending, int keys) {

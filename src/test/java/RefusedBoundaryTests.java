@@ -26,6 +26,8 @@ public final class RefusedBoundaryTests {
         firstNamed();
         Checks.sentence("Promises 2 to 21: nothing but the named exceptions, for any numbers in any state",
             RefusedBoundaryTests::nothingElse);
+        Checks.sentence("Promises 2 to 21: nothing but the named exceptions, for any number of keys",
+            RefusedBoundaryTests::anyNumberOfKeys);
     }
 
     private static void noSuchNode() {
@@ -167,6 +169,25 @@ public final class RefusedBoundaryTests {
         only("recover", x::recover, Checks.STATE);
         only("step", x::step, Checks.STATE);
         only("off", x::off);
+    }
+
+    /** Whatever rows the class has, at some of these numbers they are just full. */
+    private static void anyNumberOfKeys() {
+        for (int keys = 1; keys <= 256; keys++) {
+            ShardRing x = new ShardRing(1, 1);
+            int last = Rings.putBetween(x, keys);
+            int n = keys;
+            Checks.due("holds, behind the last of " + n, () -> x.holds(0, GREATEST), false);
+            Checks.due("get, behind the last of " + n, () -> x.get(GREATEST), Checks.MISSING);
+            Checks.due("remove, behind the last of " + n, () -> x.remove(GREATEST), 0);
+            Checks.due("key, behind the last of " + n, () -> x.key(0, n), Checks.BOUNDS);
+            Checks.due("key, the last of " + n, () -> x.key(0, n - 1), last);
+            Checks.due("join with " + n, () -> x.join(1, 1), n);
+            Checks.due("state, behind the last of " + n, () -> x.state(GREATEST), ShardRing.OTHER);
+            Checks.due("state, the last of " + n, () -> x.state(last), ShardRing.NEW);
+            Checks.due("home, behind the last of " + n, () -> x.home(GREATEST), x.owner(GREATEST));
+            Checks.due("step with " + n, x::step, ShardRing.COPIED);
+        }
     }
 
     private static void only(String what, Checks.Call call, Class<?>... named) {

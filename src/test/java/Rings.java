@@ -75,6 +75,20 @@ final class Rings {
         return 31 * i - 4000;
     }
 
+    /** Puts so many keys whose places lie between the point of node 0 and that of node 1; the last of them. */
+    static int putBetween(ShardRing x, int keys) {
+        int done = 0;
+        int key = 0;
+        while (done < keys) {
+            key++;
+            int place = (int) (((long) key * -7046029254386353131L) >>> 33);
+            if (place > 52752509 && place <= 1862763098) {
+                done += x.put(key, key);
+            }
+        }
+        return key;
+    }
+
     /** So many writes more are done, then the power fails. */
     static ShardRing told(ShardRing x, int n) {
         x.fail(n);

@@ -56,7 +56,12 @@ public final class StoreBoundaryTests {
     }
 
     private static void putAnyInts() {
-        ShardRing x = new ShardRing(8, 16);
+        putEdges(new ShardRing(8, 16));
+        // All in one store, where they stand in order.
+        putEdges(new ShardRing(1, 1));
+    }
+
+    private static void putEdges(ShardRing x) {
         int[] numbers = {LEAST, LEAST + 1, -9, -1, 0, 1, GREATEST - 1, GREATEST};
         for (int i = 0; i < numbers.length; i++) {
             int key = numbers[i];
@@ -239,6 +244,7 @@ public final class StoreBoundaryTests {
         Checks.sentence("Promise 3, Terms: if the key is COPIED, off the target's store too", StoreBoundaryTests::removeCopied);
         Checks.sentence("Promise 3, Terms: only if it is COPIED", StoreBoundaryTests::removeNotCopied);
         Checks.sentence("Promise 3: the last key of a store", StoreBoundaryTests::removeTheLast);
+        Checks.sentence("Promise 3: a key goes, and no other", StoreBoundaryTests::removeKeepsTheOthers);
     }
 
     private static void removeAnswers() {
@@ -316,6 +322,23 @@ public final class StoreBoundaryTests {
         }
         Checks.due("the store of node 1", () -> x.size(1), 0);
         Checks.due("all keys", () -> x.count(0), 0);
+    }
+
+    /** Removed from the front, the middle and the end of one store. */
+    private static void removeKeepsTheOthers() {
+        for (int gone : new int[] {LEAST, -1, GREATEST}) {
+            ShardRing x = new ShardRing(1, 1);
+            int[] keys = {LEAST, LEAST + 1, -1, 7, GREATEST};
+            for (int i = 0; i < keys.length; i++) {
+                x.put(keys[i], 10 * i);
+            }
+            x.remove(gone);
+            for (int i = 0; i < keys.length; i++) {
+                int key = keys[i];
+                Object due = key == gone ? (Object) Checks.MISSING : (Object) (10 * i);
+                Checks.due("without " + gone + ", get(" + key + ")", () -> x.get(key), due);
+            }
+        }
     }
 
     private static void gets() {
