@@ -83,7 +83,8 @@ final class Rings {
             key++;
             int place = (int) (((long) key * -7046029254386353131L) >>> 33);
             if (place > 52752509 && place <= 1862763098) {
-                done += x.put(key, key);
+                x.put(key, key);
+                done++;
             }
         }
         return key;
