@@ -6,6 +6,7 @@ import java.lang.reflect.Modifier;
 import java.nio.file.Files;
 import java.nio.file.Path;
 import java.util.Arrays;
+import java.util.HashSet;
 import java.util.Set;
 import java.util.TreeSet;
 import java.util.regex.Matcher;
@@ -43,7 +44,7 @@ public final class FaceTests {
 
     private static final String[] NOT_IN_SOURCE = {
         "\\bcatch\\b", "\\bfinally\\b", "->", "::", "\\bsynchronized\\b", "\\bassert\\b", "\\bSystem\\.(?!arraycopy)",
-        "\\bExact\\(", "\\bRandom\\b", "\\bThread\\b", "\\bpackage\\b", "\\bprotected\\b", "\\bfloat\\b", "\\bdouble\\b",
+        "Exact\\(", "\\bRandom\\b", "\\bThread\\b", "\\bpackage\\b", "\\bprotected\\b", "\\bfloat\\b", "\\bdouble\\b",
         "[^\\x00-\\x7f]"
     };
 
@@ -52,6 +53,7 @@ public final class FaceTests {
     public static void main(String[] args) throws IOException {
         face();
         names();
+        sizes();
         source(Files.readString(Path.of("src/main/java/ShardRing.java")));
         System.out.println(wrong + " wrong");
         if (wrong != 0) {
@@ -97,6 +99,24 @@ public final class FaceTests {
             need(!Modifier.isPublic(inside.getModifiers()), "public: " + inside);
             for (Method method : inside.getDeclaredMethods()) {
                 need(!open.contains(method.getName()), "a name of the face: " + method);
+            }
+        }
+    }
+
+    private static void sizes() {
+        Set<Class<?>> all = new HashSet<>(Arrays.asList(ShardRing.class.getDeclaredClasses()));
+        all.add(ShardRing.class);
+        need(all.size() <= 12, "at most twelve classes");
+        for (Class<?> one : all) {
+            int ofObject = 0;
+            for (Field field : one.getDeclaredFields()) {
+                boolean isStatic = Modifier.isStatic(field.getModifiers());
+                need(!isStatic || Modifier.isFinal(field.getModifiers()), "static and not final: " + field);
+                ofObject += isStatic ? 0 : 1;
+            }
+            need(ofObject <= 20, "at most twenty fields: " + one);
+            for (Method method : one.getDeclaredMethods()) {
+                need(method.getParameterCount() <= 7, "at most seven parameters: " + method);
             }
         }
     }
